@@ -872,7 +872,10 @@ public final class SlantGauges {
         }
 
         void keep(Row row) {
-            rows[Math.floorMod(oldest + count, MOST_UNDOS)].copyFrom(row);
+            int at = Math.floorMod(oldest + count, MOST_UNDOS);
+            if (at >= 0 && at < rows.length) {
+                rows[at].copyFrom(row);
+            }
             if (count < MOST_UNDOS) {
                 count++;
             } else {
@@ -881,9 +884,10 @@ public final class SlantGauges {
         }
 
         void takeBack(Row into) {
-            if (count > 0) {
+            int at = Math.floorMod(oldest + count - 1, MOST_UNDOS);
+            if (count > 0 && at >= 0 && at < rows.length) {
                 count--;
-                into.copyFrom(rows[Math.floorMod(oldest + count, MOST_UNDOS)]);
+                into.copyFrom(rows[at]);
             }
         }
     }

@@ -84,6 +84,11 @@ public final class ForecastTest {
         Checks.due("by its last unit", asked(one, () -> one.breaksIn(0, -1)), (Object) 2);
         SlantGauges low = Checks.loaded("gauges 2 50000; leg 0 20000 99999 0; tube 0 0 1 1000 26;");
         Checks.due("not below the pressure 0", asked(low, () -> low.breaksIn(0, -9999)), (Object) (-1));
+        String clause = "leg 0 1000 99999 0; tube 0 0 1 1000 10; pressure 0 500;";
+        SlantGauges whole = Checks.loaded("gauges 2 1001;" + clause);
+        Checks.due("full at the pressure 0", asked(whole, () -> whole.breaksIn(0, -400)), (Object) (-1));
+        SlantGauges blown = Checks.loaded("gauges 2 1002;" + clause);
+        Checks.due("blown at the pressure 0", asked(blown, () -> blown.breaksIn(0, -400)), (Object) 2);
         SlantGauges high = Checks.loaded("gauges 2 50000; leg 0 20000 100 0; tube 0 0 1 1000 60;");
         Checks.due("pulls of less than 20 are cut off", asked(high, () -> high.breaksIn(0, 19)), (Object) 2);
         high.refill(0, 300000);

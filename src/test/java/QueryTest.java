@@ -107,6 +107,11 @@ public final class QueryTest {
         answers("\nmany\n\ntube>0  ", 4);
         error("many 3tube", 1, 6);
         answers("many1<2and2<3", 5);
+        SlantGauges row = Checks.loaded(TEXT);
+        Checks.feed(row, "first tube = 12");
+        Checks.due("a number ends with the text", row.query(14), 1);
+        Checks.feed(row, "many 1 = legs");
+        Checks.due("a word ends with the text", row.query(12), 2);
     }
 
     private static void error(String text, int code, int position) {

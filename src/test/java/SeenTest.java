@@ -264,6 +264,13 @@ public final class SeenTest {
         Checks.due("they differ", most > least, true);
         Checks.due("by at most what they differ", row.agree(0, most - least), true);
         Checks.due("by less", row.agree(0, most - least - 1), false);
+        SlantGauges ends = Checks.loaded("gauges 2 50000; leg 1 20000 99999 0; tube 0 0 1 1000 90; tube 0 0 1 1000 90;"
+                + "tube 1 0 1 1000 90; pressure 0 49990;");
+        int apart = Math.abs(ends.told(0) - ends.told(2));
+        Checks.due("the last one against the others", ends.agree(0, apart - 1), false);
+        Checks.due("the last one against the others", ends.agree(0, apart), true);
+        ends.dropTube(1);
+        Checks.due("the first one against the last one", ends.agree(0, apart - 1), false);
         Checks.due("one alone", row.agree(1, 0), true);
         Checks.due("none", row.agree(2, 0), true);
         Checks.due("the greatest units", row.agree(0, 99999), true);

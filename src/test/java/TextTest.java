@@ -102,6 +102,10 @@ public final class TextTest {
         Checks.due("mark 9999", row.tube(0, 5), 9999);
         Checks.due("mark - 9999", row.tube(1, 5), -9999);
         Checks.due("only the first bytes", loadFirst(row, "gauges 2 50000; x", 15), 0);
+        Checks.due("a word ends with the text", loadFirst(row, "gauges 2 50000; pressures 0 0;", 24), -11);
+        Checks.due("errorPosition", row.errorPosition(), 24);
+        Checks.due("a number ends with the text", loadFirst(row, "gauges 2 50000999;", 14), -11);
+        Checks.due("errorPosition", row.errorPosition(), 14);
         Checks.due("nothing is left", answerOfLoad(row, 1), (Object) "IllegalArgumentException");
     }
 
@@ -145,6 +149,9 @@ public final class TextTest {
         error("  ", 1, 2);
         error("gauge 2 50000;", 1, 0);
         error("gaugess 2 50000;", 1, 0);
+        error("gaugesz 2 50000;", 1, 0);
+        error("mauges 2 50000;", 1, 0);
+        error("gaugec 2 50000;", 1, 0);
         error("Gauges 2 50000;", 1, 0);
         error("gauges", 1, 6);
         error("gauges ; 50000;", 1, 7);
@@ -246,5 +253,11 @@ public final class TextTest {
         Checks.due("undoCount behind load", row.undoCount(), 0);
         Checks.due("undo behind load", row.undo(), -1);
         Checks.due("restoreSnapshot behind load", row.restoreSnapshot(), false);
+        SlantGauges asked = Checks.loaded("gauges 2 50000; tube 1 0 1 500 10;");
+        asked.refill(1, 5000);
+        asked.setPressure(0, 0);
+        asked.wouldBreak(0, 60000);
+        Checks.load(asked, LOADED);
+        Checks.due("nothing of a forecast either", Checks.picture(asked), Checks.picture(Checks.loaded(LOADED)));
     }
 }
