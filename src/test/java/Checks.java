@@ -6,6 +6,14 @@ final class Checks {
         Object go();
     }
 
+    interface Maker {
+        SlantGauges make();
+    }
+
+    interface CallOn {
+        Object go(SlantGauges row);
+    }
+
     private static int checked = 0;
     private static int wrong = 0;
 
@@ -133,6 +141,36 @@ final class Checks {
         String before = wholePicture(row);
         due(call, answerOf(made), want);
         due(call + " changes nothing", wholePicture(row), before);
+    }
+
+    /** Everything that can be got out of a row, its history, snapshot, text and buffer too; the row is used up by it. */
+    static String everything(SlantGauges row) {
+        StringBuilder seen = new StringBuilder(wholePicture(row));
+        seen.append("\ntext ").append(formattedText(row, formattedLength(row)));
+        int kept = row.undoCount();
+        for (int k = 0; k < kept; k++) {
+            seen.append("\nundo ").append(row.undo()).append(' ').append(picture(row));
+        }
+        seen.append("\nrestore ").append(row.restoreSnapshot()).append(' ').append(picture(row));
+        int bytes = feed(row, " ");
+        seen.append("\nbuffer ").append(bytes);
+        seen.append("\nload ").append(row.load(bytes == SlantGauges.NONE ? 600 : bytes)).append(' ');
+        return seen.append(wholePicture(row)).toString();
+    }
+
+    private static int formattedLength(SlantGauges row) {
+        int length = 0;
+        while (length < 100 && row.formattedByte(length) != SlantGauges.NONE) {
+            length++;
+        }
+        return length;
+    }
+
+    /** A call answers what is due, and leaves everything as it is on a row without it. */
+    static void unchanged(String call, Maker maker, Object want, CallOn made) {
+        SlantGauges row = maker.make();
+        due(call, answerOf(() -> made.go(row)), want);
+        due(call + " changes nothing", everything(row), everything(maker.make()));
     }
 
     static void end() {

@@ -23,6 +23,7 @@ public final class LanguageTest {
         words(code);
         methods(code);
         privateNames();
+        keptRoom();
         Checks.end();
     }
 
@@ -146,5 +147,42 @@ public final class LanguageTest {
         for (Method method : inner) {
             Checks.due(method + " bears the name of a public one", open.contains(method.getName()), false);
         }
+    }
+
+    /** What an object keeps is the same behind 512 calls as when it was made, and far below the room of a run. */
+    private static void keptRoom() throws Exception {
+        SlantGauges row = new SlantGauges();
+        int made = keptBy(row);
+        Checks.due("objects are counted", made > 100, true);
+        Checks.due("few objects are kept", made < 1000, true);
+        for (int k = 0; k < 128; k++) {
+            row.addTube(0, 0, 1, 50, 10);
+            row.saveSnapshot();
+            row.feed(k, k, k, k, k);
+            row.query(Math.min(20, k));
+        }
+        Checks.due("no more are kept behind 512 calls", keptBy(row), made);
+    }
+
+    private static int keptBy(Object root) throws Exception {
+        Set<Object> seen = java.util.Collections.newSetFromMap(new java.util.IdentityHashMap<>());
+        List<Object> open = new ArrayList<>(List.of(root));
+        while (!open.isEmpty()) {
+            Object next = open.remove(open.size() - 1);
+            if (next == null || !seen.add(next)) {
+                continue;
+            }
+            if (next instanceof Object[]) {
+                open.addAll(java.util.Arrays.asList((Object[]) next));
+            }
+            for (java.lang.reflect.Field field : next.getClass().getDeclaredFields()) {
+                boolean ours = next.getClass().getName().startsWith("SlantGauges");
+                if (ours && !field.getType().isPrimitive() && !Modifier.isStatic(field.getModifiers())) {
+                    field.setAccessible(true);
+                    open.add(field.get(next));
+                }
+            }
+        }
+        return seen.size();
     }
 }
