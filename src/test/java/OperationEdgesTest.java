@@ -27,6 +27,7 @@ public final class OperationEdgesTest {
         refillOnBothSides();
         refillUpTo2000000000();
         refillIsCountedByLeg();
+        refillIsCountedWithoutWhatWasLost();
         refillThatIsUndoneIsNotCounted();
         addTubeUpToTheTwelfth();
         addTubeBehindADroppedOne();
@@ -339,6 +340,17 @@ public final class OperationEdgesTest {
         Checks.load(row, "gauges 2 50000;");
         Checks.due("from 0 again behind load", row.refill(1, 99999999), 0);
         Checks.due("filled in", row.account(1, 3), 99999999L);
+    }
+
+    private static void refillIsCountedWithoutWhatWasLost() {
+        Checks.Maker blown = () -> {
+            SlantGauges row = filled(20);
+            row.addTube(1, 0, 1, 1000, 10);
+            return row;
+        };
+        Checks.due("the stock has room for more", blown.make().account(1, 0), 1999998980L);
+        Checks.unchanged("but 2000000000 were filled in", blown, -2, row -> row.refill(1, 21));
+        Checks.due("up to them", blown.make().refill(1, 20), 0);
     }
 
     private static void refillThatIsUndoneIsNotCounted() {

@@ -17,6 +17,7 @@ public final class QueryEdgesTest {
         comparisonsAtTheEdge();
         everyPropertyAtItsEdge();
         statesAndColumns();
+        pressureIsThatOfThePoint();
         sixNotsAndTheSeventh();
         sixParenthesesAndTheSeventh();
         bothKindsTogether();
@@ -30,6 +31,8 @@ public final class QueryEdgesTest {
         everyTokenLeftOut();
         theTextEndsTooEarly();
         wordsThatAreNoProperties();
+        wordsCutByTheLength();
+        everyByteBehindAWord();
         theFirstErrorAlongTheText();
         Checks.end();
     }
@@ -211,6 +214,14 @@ public final class QueryEdgesTest {
         answers("many pressure = 40000", 2);
     }
 
+    /** By the density 20000 a pull of less than 20 units is cut off: the tube tells 50000 all the same. */
+    private static void pressureIsThatOfThePoint() {
+        String text = "gauges 2 50000; leg 0 20000 99999 0; tube 0 1 1 1000 10; pressure 1 49990;";
+        Checks.due("what it tells", Checks.loaded(text).told(0), 50000);
+        Checks.due("its point", Checks.query(Checks.loaded(text), "many pressure = 49990"), 1);
+        Checks.due("what it tells", Checks.query(Checks.loaded(text), "many pressure = 50000"), 0);
+    }
+
     // ---- nesting ----
 
     private static void sixNotsAndTheSeventh() {
@@ -377,6 +388,34 @@ public final class QueryEdgesTest {
         error("many 1 = 1 andd 1 = 1", 1, 11);
         error("many 1 = 1 o 1 = 1", 1, 11);
         answers("many not1=2and not 2=3or 4=5", 12);
+    }
+
+    /** What stands behind the length in the buffer makes no word whole. */
+    private static void wordsCutByTheLength() {
+        String text = "many not tube = column or leg = 1";
+        int[] lengths = {1, 3, 6, 11, 21, 24, 28};
+        int[] positions = {0, 0, 5, 9, 16, 23, 26};
+        for (int k = 0; k < lengths.length; k++) {
+            SlantGauges row = twelve();
+            Checks.feed(row, text);
+            Checks.due(lengths[k] + " bytes of " + text, row.query(lengths[k]), HIDDEN - 1);
+            Checks.due("their error", row.errorPosition(), positions[k]);
+        }
+    }
+
+    private static void everyByteBehindAWord() {
+        for (int sign = 0; sign <= 255; sign++) {
+            String text = "many tube" + (char) sign + " = 1";
+            if (sign == 32 || sign == 10) {
+                answers(text, 1);
+            } else if (sign >= 'a' && sign <= 'z') {
+                error(text, 1, 5);
+            } else if (sign == '<' || sign == '=' || sign == '>') {
+                error(text, 1, 11);
+            } else {
+                error(text, 1, 9);
+            }
+        }
     }
 
     private static void theFirstErrorAlongTheText() {

@@ -19,6 +19,9 @@ public final class SeenEdgesTest {
         allBreakByOneLevel();
         legsSettleEachByItself();
         brokenTubesHaveNoColumn();
+        emptyColumnsCountForTheLevel();
+        fullColumnsCountForTheLevel();
+        brokenTubesHavePullsAndMenisci();
         readingsAreCut();
         toldByARiseBelowZero();
         toldByARiseAboveZero();
@@ -27,6 +30,8 @@ public final class SeenEdgesTest {
         hiddenIsWhatIsNotWhole();
         differencesAreCutTowardZero();
         differencesOfTwoLegs();
+        differencesByTheirOwnDensity();
+        eachHeightOfADifferenceIsCut();
         aDifferenceWithItself();
         ringOfFewerThanTwo();
         ringOfTwo();
@@ -38,6 +43,7 @@ public final class SeenEdgesTest {
         worstOfNoneOneAndSeveral();
         agreeAtItsUnits();
         agreeOfNoneAndOne();
+        agreeOfWholeOnesAlone();
         meanOfNoneOneAndTwelve();
         shareOfNoneOneAndTwelve();
         accountsAtTheirEnds();
@@ -248,6 +254,43 @@ public final class SeenEdgesTest {
         Checks.due("volumes", row.account(0, 1), 0L);
     }
 
+    /** The run -1010 leaves no volume below 0, which would raise the level and blow the tube 1 over at -2 already. */
+    private static void emptyColumnsCountForTheLevel() {
+        SlantGauges row = Checks.loaded("gauges 2 50000; leg 0 1000 100 0; tube 0 0 20 1000 2000; tube 0 1 1 1000 10;"
+                + "pressure 0 51000; pressure 1 48997;");
+        Checks.due("sucked", row.tube(0, 6), 1);
+        Checks.due("whole", row.tube(1, 6), 0);
+        Checks.due("column", row.tube(1, 7), 993);
+        levelAndRest(row, -10, 7);
+    }
+
+    /** The run 5999 holds no more volume than 1000 does, which would sink the level and suck the tube 1 at -4006 already. */
+    private static void fullColumnsCountForTheLevel() {
+        SlantGauges row = Checks.loaded("gauges 2 50000; leg 0 1000 100 0; tube 0 0 20 1000 10; tube 0 1 1 1000 10;"
+                + "pressure 0 40000; pressure 1 45995;");
+        Checks.due("blown", row.tube(0, 6), 2);
+        Checks.due("whole", row.tube(1, 6), 0);
+        Checks.due("column", row.tube(1, 7), 4);
+        Checks.due("lost", row.account(0, 2), 400000L);
+        levelAndRest(row, -4001, 96);
+    }
+
+    private static void brokenTubesHavePullsAndMenisci() {
+        SlantGauges row = Checks.loaded(WIDE + "tube 0 0 2 1000 10; tube 0 1 3 1000 10; pressure 0 0; pressure 1 99999;");
+        Checks.due("pull of a blown one", row.tube(0, 9), 50000);
+        Checks.due("pull of a sucked one", row.tube(1, 9), -49999);
+        row.setPressure(0, 60000);
+        row.setPressure(1, 40000);
+        row.setCurve(0, -31);
+        Checks.due("both are still broken", row.size(3), 0);
+        Checks.due("pull of a blown one", row.tube(0, 9), -10000);
+        Checks.due("pull of a sucked one", row.tube(1, 9), 10000);
+        Checks.due("meniscus of a blown one", row.tube(0, 10), -15);
+        Checks.due("meniscus of a sucked one", row.tube(1, 10), -10);
+        row.setReference(0);
+        Checks.due("pull by another REFERENCE", row.tube(0, 9), -60000);
+    }
+
     // ---- section 4 ----
 
     private static void readingsAreCut() {
@@ -344,6 +387,25 @@ public final class SeenEdgesTest {
                 + "pressure 0 49998;");
         Checks.due("what the first one tells less what the second one tells", row.difference(0, 1), -1);
         Checks.due("the other way", row.difference(1, 0), 1);
+    }
+
+    /** By the density 2000 of leg 1, not by that of leg 0. */
+    private static void differencesByTheirOwnDensity() {
+        SlantGauges row = Checks.loaded("gauges 2 50000; leg 1 2000 99999 0; tube 1 0 1 1000 90; tube 1 1 1 1000 90;"
+                + "pressure 0 49000; pressure 1 48000;");
+        Checks.due("column", row.tube(0, 7), 499);
+        Checks.due("column", row.tube(1, 7), 999);
+        Checks.due("what is more at the first one", row.difference(0, 1), 1000);
+        Checks.due("the other way", row.difference(1, 0), -1000);
+    }
+
+    /** The heights 1.8 and 3 are cut off to 1 and 3 ahead of the subtraction, which would leave 1.2. */
+    private static void eachHeightOfADifferenceIsCut() {
+        SlantGauges row = Checks.loaded(WIDE + "tube 0 0 1 300 10; tube 0 1 1 1000 10; pressure 0 49997; pressure 1 49996;");
+        Checks.due("column", row.tube(0, 7), 6);
+        Checks.due("column", row.tube(1, 7), 3);
+        Checks.due("difference", row.difference(0, 1), 2);
+        Checks.due("the other way", row.difference(1, 0), -2);
     }
 
     private static void aDifferenceWithItself() {
@@ -507,6 +569,17 @@ public final class SeenEdgesTest {
         SlantGauges sucked = Checks.loaded(HEAVY + "tube 0 2 1 1000 10; tube 1 2 1 1000 10;");
         Checks.due("the second one is sucked", sucked.tube(1, 6), 1);
         Checks.due("one beside a sucked one", sucked.agree(2, 0), true);
+    }
+
+    /** Whole tubes beside blown ones or a sucked one at the same point, which would tell other pressures. */
+    private static void agreeOfWholeOnesAlone() {
+        SlantGauges row = Checks.loaded(WIDE + "tube 0 0 1 1000 10; tube 0 0 1 1000 90; tube 0 0 1 50 90; tube 1 0 1 1000 90;"
+                + "pressure 0 48000;");
+        Checks.due("two are blown", row.size(5), 2);
+        Checks.due("the two that are whole agree", row.agree(0, 0), true);
+        row = Checks.loaded(WIDE + "leg 0 1000 99999 -500; tube 0 0 1 1000 10; tube 1 0 1 1000 10; pressure 0 49900;");
+        Checks.due("one is sucked", row.size(4), 1);
+        Checks.due("one that is whole agrees", row.agree(0, 0), true);
     }
 
     // ---- means and shares ----

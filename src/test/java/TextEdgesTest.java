@@ -13,6 +13,7 @@ public final class TextEdgesTest {
         everyPlaceOf600CountsAlone();
         everyByteAlone();
         everyByteBehindANumber();
+        everyByteBehindAWord();
         loadReadsTheFirstBytesAlone();
         theBufferIsEmptyBehindLoad();
         loadAnswersTheWholeTubes();
@@ -29,6 +30,7 @@ public final class TextEdgesTest {
         numbersThatWrapAround();
         leadingZeros();
         wordsAreMaximal();
+        wordsCutByTheLength();
         tokensNeedNoSpaces();
         theTextMayEndBehindEachClause();
         theTextEndsTooEarly();
@@ -116,6 +118,21 @@ public final class TextEdgesTest {
                 error(text, 2, 9);
             } else {
                 error(text, 1, sign == ';' ? 15 : 14);
+            }
+        }
+    }
+
+    private static void everyByteBehindAWord() {
+        for (int sign = 0; sign <= 255; sign++) {
+            String text = "gauges" + (char) sign + " 2 50000;";
+            if (sign == 32 || sign == 10) {
+                Checks.due("a separator", Checks.load(new SlantGauges(), text), 0);
+            } else if (sign >= 'a' && sign <= 'z') {
+                error(text, 1, 0);
+            } else if (sign >= '2' && sign <= '8') {
+                error(text, 1, 10);
+            } else {
+                error(text, sign == '0' || sign == '1' || sign == '9' ? 2 : 1, 6);
             }
         }
     }
@@ -384,6 +401,20 @@ public final class TextEdgesTest {
         error(tube + "mar 5;", 1, tube.length());
         error(tube + "marks 5;", 1, tube.length());
         error(tube + "tube;", 1, tube.length());
+    }
+
+    /** What stands behind the length in the buffer makes no word whole. */
+    private static void wordsCutByTheLength() {
+        String text = START + "leg 0 700 600 5; tube 0 1 3 400 50 mark 5; pressure 1 7;";
+        for (String word : new String[] {"gauges", "leg", "tube", "mark", "pressure"}) {
+            int at = text.indexOf(word);
+            for (int length = at + 1; length < at + word.length(); length++) {
+                SlantGauges row = new SlantGauges();
+                Checks.feed(row, text);
+                Checks.due(length + " bytes of " + text, row.load(length), -11);
+                Checks.due("their error", row.errorPosition(), at);
+            }
+        }
     }
 
     private static void tokensNeedNoSpaces() {
